@@ -1,0 +1,125 @@
+import java.lang.reflect.InvocationTargetException;
+import java.lang.reflect.Method;
+import java.lang.reflect.Modifier;
+import java.util.ArrayList;
+import java.util.Arrays;
+import java.util.Comparator;
+import java.util.List;
+import java.util.Random;
+
+/** Long runs of calls, the same each time, answered by the class and by the Model. */
+public final class ModelTest {
+    /** An object is used for at most so many calls. */
+    private static final int MOST_CALLS = 512;
+
+    private final Random random;
+    private final int mostLefts;
+    private final int mostRights;
+    private final int density;
+    private final Phasehall hall = new Phasehall();
+    private final Model model = new Model();
+
+    private ModelTest(int seed, int mostLefts, int mostRights) {
+        this.random = new Random(seed);
+        this.mostLefts = mostLefts;
+        this.mostRights = mostRights;
+        this.density = 1 + random.nextInt(9);
+    }
+
+    public static void main(String[] args) throws IllegalAccessException {
+        List<Method> methods = new ArrayList<>();
+        for (Method method : Phasehall.class.getDeclaredMethods()) {
+            if (Modifier.isPublic(method.getModifiers())) {
+                methods.add(method);
+            }
+        }
+        methods.sort(Comparator.comparing(Method::getName));
+        for (int seed = 0; seed < 400; seed++) {
+            new ModelTest(seed, seed % 6, seed / 6 % 6).run(methods, seed);
+        }
+        for (int seed = 1000; seed < 1200; seed++) {
+            new ModelTest(seed, 6 + seed % 7, 6 + seed / 7 % 7).run(methods, seed);
+        }
+        Check.end("ModelTest");
+    }
+
+    private void run(List<Method> methods, int seed) throws IllegalAccessException {
+        StringBuilder calls = new StringBuilder();
+        for (int call = 0; call < MOST_CALLS; call++) {
+            Method method = nextMethod(methods);
+            if (isPassedOver(method.getName())) {
+                continue;
+            }
+            Object[] arguments = arguments(method);
+            String due = answer(model, method.getName(), method.getParameterTypes(), arguments);
+            String got = answer(hall, method.getName(), method.getParameterTypes(), arguments);
+            calls.append(method.getName()).append(Arrays.toString(arguments)).append(' ');
+            if (!got.equals(due)) {
+                Check.same("run " + seed + ": " + calls, got, due);
+                return;
+            }
+        }
+    }
+
+    /** Growth stops at the run's size, and of large objects the Model's slowest calls are asked seldom. */
+    private boolean isPassedOver(String name) {
+        int nodes = hall.lefts() + hall.rights();
+        switch (name) {
+            case "addLeft":
+                return hall.lefts() >= mostLefts && mostLefts < 12;
+            case "addRight":
+                return hall.rights() >= mostRights && mostRights < 12;
+            case "leastCovers":
+                return nodes > 16 || nodes > 10 && random.nextInt(10) > 0;
+            case "largestMatchings":
+            case "greatestExcess":
+                return nodes > 10 && random.nextInt(10) > 0;
+            default:
+                return false;
+        }
+    }
+
+    /** Nodes come early, and edges come and go more often than one question is asked. */
+    private Method nextMethod(List<Method> methods) {
+        int kind = random.nextInt(20);
+        boolean grow = hall.lefts() < mostLefts || hall.rights() < mostRights;
+        if (grow && kind < 6) {
+            return named(methods, kind < 3 ? "addLeft" : "addRight");
+        }
+        if (kind < 9) {
+            return named(methods, random.nextInt(10) < density ? "connect" : "disconnect");
+        }
+        return methods.get(random.nextInt(methods.size()));
+    }
+
+    private static Method named(List<Method> methods, String name) {
+        for (Method method : methods) {
+            if (method.getName().equals(name)) {
+                return method;
+            }
+        }
+        throw new IllegalArgumentException(name);
+    }
+
+    private Object[] arguments(Method method) {
+        Object[] arguments = new Object[method.getParameterCount()];
+        for (int at = 0; at < arguments.length; at++) {
+            int most = at == 1 && !method.getName().equals("leads") ? hall.rights() : hall.lefts();
+            int odd = random.nextInt(60);
+            arguments[at] = odd == 0 ? most + random.nextInt(2) : odd == 1 ? -1
+                : odd == 2 ? random.nextInt() : random.nextInt(Math.max(1, most));
+        }
+        return arguments;
+    }
+
+    private static String answer(Object object, String name, Class<?>[] types, Object[] arguments)
+            throws IllegalAccessException {
+        try {
+            return String.valueOf(object.getClass().getMethod(name, types).invoke(object, arguments));
+        } catch (InvocationTargetException e) {
+            return "throws." + e.getCause().getClass().getSimpleName();
+        } catch (NoSuchMethodException e) {
+            throw new IllegalStateException(e);
+        }
+    }
+}
