@@ -409,7 +409,7 @@ public final class Phasehall {
         boolean enlarge(Graph graph, Matching matching) {
             Arrays.fill(lookedFrom, NONE);
             queueFreeLefts(graph, matching);
-            for (int head = 0; head < waiting; head++) {
+            for (int head = 0; head < waiting && head < MOST_NODES; head++) {
                 int end = lookFrom(queue[head], graph, matching);
                 if (end != NONE) {
                     changePath(end, matching);

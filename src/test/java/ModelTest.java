@@ -63,12 +63,12 @@ public final class ModelTest {
 
     /** Growth stops at the run's size, and of large objects the Model's slowest calls are asked seldom. */
     private boolean isPassedOver(String name) {
-        int nodes = hall.lefts() + hall.rights();
+        int nodes = model.lefts() + model.rights();
         switch (name) {
             case "addLeft":
-                return hall.lefts() >= mostLefts && mostLefts < 12;
+                return model.lefts() >= mostLefts && mostLefts < 12;
             case "addRight":
-                return hall.rights() >= mostRights && mostRights < 12;
+                return model.rights() >= mostRights && mostRights < 12;
             case "leastCovers":
                 return nodes > 16 || nodes > 10 && random.nextInt(10) > 0;
             case "largestMatchings":
@@ -82,7 +82,7 @@ public final class ModelTest {
     /** Nodes come early, and edges come and go more often than one question is asked. */
     private Method nextMethod(List<Method> methods) {
         int kind = random.nextInt(20);
-        boolean grow = hall.lefts() < mostLefts || hall.rights() < mostRights;
+        boolean grow = model.lefts() < mostLefts || model.rights() < mostRights;
         if (grow && kind < 6) {
             return named(methods, kind < 3 ? "addLeft" : "addRight");
         }
@@ -104,7 +104,7 @@ public final class ModelTest {
     private Object[] arguments(Method method) {
         Object[] arguments = new Object[method.getParameterCount()];
         for (int at = 0; at < arguments.length; at++) {
-            int most = at == 1 && !method.getName().equals("leads") ? hall.rights() : hall.lefts();
+            int most = at == 1 && !method.getName().equals("leads") ? model.rights() : model.lefts();
             int odd = random.nextInt(60);
             arguments[at] = odd == 0 ? most + random.nextInt(2) : odd == 1 ? -1
                 : odd == 2 ? random.nextInt() : random.nextInt(Math.max(1, most));
