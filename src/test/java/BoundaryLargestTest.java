@@ -28,8 +28,10 @@ public final class BoundaryLargestTest {
         Check.same("23: " + what + ", " + left + "-" + right, x.isInAll(left, right), all);
     }
 
-    // ---- 22: "Returns whether an edge is in some largest matching." "whether there is a largest matching with this edge."
-    // ---- 23: "Returns whether an edge is in all largest matchings." "whether there is no largest matching without this edge."
+    // ---- 22: "Returns whether an edge is in some largest matching." "Returns whether there is a largest matching
+    // with this edge."
+    // ---- 23: "Returns whether an edge is in all largest matchings." "Returns whether there is no largest matching
+    // without this edge."
 
     private static void inSomeAndInAll() {
         askedFirst();
