@@ -1,4 +1,3 @@
-import java.lang.reflect.InvocationTargetException;
 import java.lang.reflect.Method;
 import java.lang.reflect.Modifier;
 import java.util.ArrayList;
@@ -26,7 +25,7 @@ public final class ModelTest {
         this.density = 1 + random.nextInt(9);
     }
 
-    public static void main(String[] args) throws IllegalAccessException {
+    public static void main(String[] args) {
         List<Method> methods = new ArrayList<>();
         for (Method method : Phasehall.class.getDeclaredMethods()) {
             if (Modifier.isPublic(method.getModifiers())) {
@@ -43,7 +42,7 @@ public final class ModelTest {
         Check.end("ModelTest");
     }
 
-    private void run(List<Method> methods, int seed) throws IllegalAccessException {
+    private void run(List<Method> methods, int seed) {
         StringBuilder calls = new StringBuilder();
         for (int call = 0; call < MOST_CALLS; call++) {
             Method method = nextMethod(methods);
@@ -51,8 +50,8 @@ public final class ModelTest {
                 continue;
             }
             Object[] arguments = arguments(method);
-            String due = answer(model, method.getName(), method.getParameterTypes(), arguments);
-            String got = answer(hall, method.getName(), method.getParameterTypes(), arguments);
+            String due = Asked.answer(model, method.getName(), arguments);
+            String got = Asked.answer(hall, method.getName(), arguments);
             calls.append(method.getName()).append(Arrays.toString(arguments)).append(' ');
             if (!got.equals(due)) {
                 Check.same("run " + seed + ": " + calls, got, due);
@@ -110,16 +109,5 @@ public final class ModelTest {
                 : odd == 2 ? random.nextInt() : random.nextInt(Math.max(1, most));
         }
         return arguments;
-    }
-
-    private static String answer(Object object, String name, Class<?>[] types, Object[] arguments)
-            throws IllegalAccessException {
-        try {
-            return String.valueOf(object.getClass().getMethod(name, types).invoke(object, arguments));
-        } catch (InvocationTargetException e) {
-            return "throws." + e.getCause().getClass().getSimpleName();
-        } catch (NoSuchMethodException e) {
-            throw new IllegalStateException(e);
-        }
     }
 }
